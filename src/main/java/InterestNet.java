@@ -904,10 +904,7 @@ public final class InterestNet {
             if (draft.number(NODES) >= MAX_NODES) {
                 return refuse(place);
             }
-            if (!readSign('n')) {
-                return false;
-            }
-            int energy = readNumber(1, MAX_ENERGY);
+            int energy = readSign('n') ? readNumber(1, MAX_ENERGY) : NO_NUMBER;
             if (energy == NO_NUMBER) {
                 return false;
             }
@@ -961,7 +958,8 @@ public final class InterestNet {
         }
 
         private int readNumber(int least, int greatest) {
-            skipBlanks();
+            // Blanks may stand before a number, but its first digit is where it begins.
+            nextCode();
             numberPlace = place;
             int number = 0;
             for (; place < length && isDigit(at(codes, place)); place++) {
@@ -983,14 +981,12 @@ public final class InterestNet {
             return true;
         }
 
+        /** Goes on to the next byte that is no blank, and tells it. */
         private int nextCode() {
-            skipBlanks();
-            return place < length ? at(codes, place) : END;
-        }
-
-        private void skipBlanks() {
-            for (; place < length && at(codes, place) == ' '; place++) {
+            while (place < length && at(codes, place) == ' ') {
+                place++;
             }
+            return place < length ? at(codes, place) : END;
         }
 
         private static boolean isDigit(int code) {

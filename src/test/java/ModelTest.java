@@ -12,7 +12,7 @@ import java.util.Set;
 /** Compares runs of calls with a model of the document that is made of lists and sets, slowly and plainly. */
 public final class ModelTest {
     private static final int NONE = -1000, BAD_INDEX = -1001, BAD_VALUE = -1002, BAD_STATE = -1003, FULL = -1004;
-    private static final int RUNS = 600, CALLS = 512;
+    private static final int RUNS = 900, CALLS = 512;
 
     private static final class Node {
         int energy;
@@ -746,11 +746,13 @@ public final class ModelTest {
         "quickest", "load", "firstDeath", "willDeliver", "bestPeriod", "undo", "type", "clearText", "textFault", "build",
         "digest"};
 
-    // How many arguments each method takes, and how often it is called; the dear ones seldom.
+    // How many arguments each method takes, and how often it is called in runs without texts and with them.
     private static final int[] ARGUMENTS = {1, 2, 3, 1, 3, 2, 5, 1, 1, 1, 1, 2, 2, 2, 1, 2, 3, 2, 2, 1, 0, 1, 1, 0, 1, 0,
         0, 0, 0};
-    private static final int[] OFTEN = {25, 25, 60, 12, 18, 25, 25, 6, 6, 8, 8, 5, 5, 20, 70, 12, 20, 15, 20, 15, 2, 2, 0,
-        14, 0, 3, 8, 10, 0};
+    private static final int[] WITHOUT_TEXTS = {4, 35, 25, 12, 8, 20, 30, 5, 6, 5, 6, 4, 4, 20, 60, 15, 25, 25, 20, 20, 3,
+        3, 1, 10, 0, 0, 0, 0, 0};
+    private static final int[] WITH_TEXTS = {1, 5, 3, 6, 1, 3, 5, 2, 2, 2, 2, 5, 5, 2, 6, 2, 2, 2, 2, 2, 1, 1, 0, 20, 1, 3,
+        20, 25, 0};
 
     private static final String[] PIECES = {"n", "s", "-", ":", ",", "=", ";", " ", "0", "1", "2", "7", "00", "10", "20",
         "21", "100", "101", "99999", "100000", "x", "\u0000", "\u00ff"};
@@ -760,11 +762,13 @@ public final class ModelTest {
     private final Model model = new Model();
     private final StringBuilder calls = new StringBuilder();
     private final int greatestEnergy;
+    private final boolean writes;
     private int made = 0;
 
     private ModelTest(long seed) {
         random = new Random(seed);
-        greatestEnergy = new int[] {20, 120, 1000, 10000}[random.nextInt(4)];
+        greatestEnergy = new int[] {40, 300, 1500, 10000}[random.nextInt(4)];
+        writes = seed % 3 == 0;
     }
 
     private int pick(int low, int high) {
@@ -802,12 +806,12 @@ public final class ModelTest {
         int low = random.nextInt(3) == 0 ? value(-100, 100) : pick(-100, -20);
         return switch (method) {
             case 0 -> new int[] {value(1, greatestEnergy)};
-            case 1 -> new int[] {index(nodes), random.nextInt(6) == 0 ? 0 : value(0, greatestEnergy)};
+            case 1 -> new int[] {index(nodes), random.nextInt(5) == 0 ? 0 : value(greatestEnergy / 2, greatestEnergy)};
             case 2 -> new int[] {index(nodes), index(nodes), random.nextBoolean() ? pick(1, 3) : value(1, 20)};
             case 3, 19 -> new int[] {index(links)};
-            case 4 -> new int[] {index(nodes), random.nextInt(8) == 0 ? value(0, 7) : pick(0, 1), value(-100, 100)};
+            case 4 -> new int[] {index(nodes), random.nextInt(8) == 0 ? value(0, 7) : 0, value(-100, 100)};
             case 5 -> new int[] {index(sensors), value(-100, 100)};
-            case 6 -> new int[] {index(nodes), random.nextInt(8) == 0 ? value(0, 7) : pick(0, 1), low,
+            case 6 -> new int[] {index(nodes), random.nextInt(8) == 0 ? value(0, 7) : 0, low,
                 random.nextInt(8) == 0 ? value(-100, 100) : pick(Math.min(100, Math.max(low, 20)), 100),
                 random.nextInt(20) == 0 ? value(s.round, 100000) : s.round + value(0, 60)};
             case 7 -> new int[] {index(interests)};
@@ -845,12 +849,13 @@ public final class ModelTest {
     }
 
     private boolean run() {
-        boolean same = grow();
-        int all = Arrays.stream(OFTEN).sum();
+        boolean same = writes || grow();
+        int[] often = writes ? WITH_TEXTS : WITHOUT_TEXTS;
+        int all = Arrays.stream(often).sum();
         while (same && made < CALLS) {
             int method = 0;
-            for (int left = random.nextInt(all); left >= OFTEN[method]; method++) {
-                left -= OFTEN[method];
+            for (int left = random.nextInt(all); left >= often[method]; method++) {
+                left -= often[method];
             }
             if (method == 26 || method == 27) {
                 same = write();
@@ -881,10 +886,10 @@ public final class ModelTest {
             if (random.nextInt(30) == 0) {
                 text.insert(index, ' ');
             }
-            if (random.nextInt(80) == 0) {
+            if (random.nextInt(120) == 0) {
                 text.insert(index, PIECES[random.nextInt(PIECES.length)]);
             }
-            if (random.nextInt(100) == 0) {
+            if (random.nextInt(150) == 0) {
                 text.deleteCharAt(index);
             }
         }
@@ -897,10 +902,10 @@ public final class ModelTest {
     private String item() {
         State s = model.state;
         int nodes = s.nodes.size();
-        return switch (random.nextInt(4)) {
-            case 0 -> "n" + value(1, greatestEnergy);
-            case 1 -> "s" + index(nodes) + "," + value(0, 7) + "=" + value(-100, 100);
-            case 2 -> index(nodes) + "-" + index(nodes) + ":" + value(1, 20);
+        return switch (random.nextInt(10)) {
+            case 0, 1, 2 -> nodes == 10 ? index(nodes) + "-" + index(nodes) + ":3" : "n" + value(1, greatestEnergy);
+            case 3, 4 -> "s" + index(nodes) + "," + value(0, 7) + "=" + value(-100, 100);
+            case 5, 6, 7, 8 -> index(nodes) + "-" + index(nodes) + ":" + value(1, 20);
             default -> PIECES[random.nextInt(PIECES.length)] + PIECES[random.nextInt(PIECES.length)];
         };
     }

@@ -284,6 +284,21 @@ public final class PromiseTest {
         due("withdraw(0)", net.withdraw(0), 0);
         due("withdraw(0)", net.withdraw(0), BAD_INDEX);
         due("count(11)", net.count(11), 0);
+        // With all five there, what the last one had must not come back.
+        InterestNet full = asking(2, 1000, 3);
+        for (int interest = 1; interest < 5; interest++) {
+            full.ask(1, 1, 0, 100, 50);
+        }
+        due("rounds(2)", full.rounds(2), 10);
+        due("withdraw(2)", full.withdraw(2), 4);
+        due("load(0)", full.load(0), 4);
+        due("rounds(1)", full.rounds(1), 4);
+        due("ask(1, 1, 0, 100, 50)", full.ask(1, 1, 0, 100, 50), 4);
+        due("interest(4, 5)", full.interest(4, 5), 0);
+        due("interest(4, 6)", full.interest(4, 6), 0);
+        due("interest(4, 7)", full.interest(4, 7), 0);
+        dueWay(full, 4, 0);
+        due("load(0)", full.load(0), 4);
     }
 
     private static void setPeriod() {
@@ -364,13 +379,20 @@ public final class PromiseTest {
         net.addSensor(1, 1, 70);
         net.ask(2, 1, -3, 65, 40);
         net.rounds(3);
-        int[] want = {2, 1, -3, 65, 40, 6, 24, 2};
+        for (int sensor = 3; sensor < 6; sensor++) {
+            net.addSensor(0, 2, 50);
+        }
+        net.ask(2, 1, 50, 50, 40);
+        net.rounds(1);
+        due("interest(1, 7)", net.interest(1, 7), 1);
+        due("load(0)", net.load(0), 2);
+        int[] want = {2, 1, -3, 65, 40, 8, 32, 2};
         for (int what = 0; what < want.length; what++) {
             due("interest(0, " + what + ")", net.interest(0, what), want[what]);
         }
         net.cut(0);
         due("interest(0, 7) after cut(0)", net.interest(0, 7), 2);
-        due("interest(1, 8)", net.interest(1, 8), BAD_INDEX);
+        due("interest(2, 8)", net.interest(2, 8), BAD_INDEX);
         due("interest(-1, 0)", net.interest(-1, 0), BAD_INDEX);
         due("interest(0, 8)", net.interest(0, 8), BAD_VALUE);
         due("interest(0, -1)", net.interest(0, -1), BAD_VALUE);
@@ -472,6 +494,13 @@ public final class PromiseTest {
         due("rounds(1) in round 10", net.rounds(1), 1);
         due("count(7) after round 10", net.count(7), 5);
         dueWay(net, 0, 0, 0, 4);
+        InterestNet apart = asking(4, 100, 1);
+        apart.cut(0);
+        apart.addSensor(1, 1, 50);
+        apart.measure(0, -1);
+        due("rounds(1), node 0 is not reached", apart.rounds(1), 1);
+        due("energy(0)", apart.energy(0), 100);
+        dueWay(apart, 0, 1, 1, 2, 3);
     }
 
     private static void roundTakesLowestNode() {
@@ -537,6 +566,20 @@ public final class PromiseTest {
         dueWay(turned, 0, 0, 0, 2, 1, 3);
         due("count(8)", turned.count(8), 5);
         due("count(9)", turned.count(9), 2);
+        // The last link of the old way, from node 0, is not that of the new one, from node 1.
+        InterestNet moved = row(2, 1000, 1);
+        moved.addNode(1000);
+        moved.link(0, 2, 1);
+        moved.link(1, 2, 5);
+        moved.addSensor(1, 1, 50);
+        moved.ask(2, 1, 0, 100, 1000);
+        moved.rounds(1);
+        dueWay(moved, 0, 0, 1, 0, 2);
+        moved.cut(1);
+        moved.rounds(1);
+        dueWay(moved, 0, 0, 1, 2);
+        due("count(8)", moved.count(8), 3);
+        due("count(9)", moved.count(9), 2);
     }
 
     private static void roundSendsOnce() {
@@ -629,6 +672,12 @@ public final class PromiseTest {
         due("isWhole(0, 0), the sink is dead", net.isWhole(0, 0), 0);
         net.charge(2, 1);
         due("isWhole(0, 0), the sink is alive", net.isWhole(0, 0), 1);
+        net.charge(0, 0);
+        due("isWhole(0, 0), the sensor's node is dead", net.isWhole(0, 0), 0);
+        net.charge(0, 1);
+        net.charge(1, 0);
+        due("isWhole(0, 0), a node between is dead", net.isWhole(0, 0), 0);
+        net.charge(1, 1);
         net.cut(1);
         due("isWhole(0, 0), a link is cut", net.isWhole(0, 0), 0);
         net.link(2, 1, 9);
@@ -653,6 +702,9 @@ public final class PromiseTest {
         net.charge(4, 0);
         due("quickest(0, 2), not reached", net.quickest(0, 2), NONE);
         due("quickest(2, 3)", net.quickest(2, 3), 3);
+        InterestNet longest = row(10, 100, 20);
+        due("quickest(0, 9) of ten nodes", longest.quickest(0, 9), 180);
+        due("quickest(9, 0) of ten nodes", longest.quickest(9, 0), 180);
     }
 
     private static void load() {
@@ -783,7 +835,7 @@ public final class PromiseTest {
             failAll(net);
             net.undo();
             due("digest() of call " + call + " after errors", net.digest(), before);
-            change(net, 1);
+            net.setPeriod(20 + call);
         }
     }
 
