@@ -1,17 +1,5 @@
 /** The promises of the document, one by one: ordinary inputs, the edges that it names, and wrong inputs. */
-public final class PromiseTest {
-    private static final int NONE = -1000, BAD_INDEX = -1001, BAD_VALUE = -1002, BAD_STATE = -1003, FULL = -1004;
-
-    private static int wrong = 0;
-    private static String part = "";
-
-    private static void due(String call, long got, long want) {
-        if (got != want) {
-            wrong++;
-            System.out.println(part + ": " + call + " answered " + got + ", due is " + want);
-        }
-    }
-
+public final class PromiseTest extends Answers {
     public static void main(String[] args) {
         newObject();
         addNode();
@@ -56,37 +44,7 @@ public final class PromiseTest {
         textFaultOfRoom();
         build();
         digest();
-        System.out.println(wrong == 0 ? "all answers are as due" : wrong + " answers are not as due");
-        if (wrong != 0) {
-            System.exit(1);
-        }
-    }
-
-    /** Nodes of the given energy in a row: 0-1-2-.. with the given delay. */
-    private static InterestNet row(int nodes, int energy, int delay) {
-        InterestNet net = new InterestNet();
-        for (int node = 0; node < nodes; node++) {
-            net.addNode(energy);
-        }
-        for (int node = 1; node < nodes; node++) {
-            net.link(node - 1, node, delay);
-        }
-        return net;
-    }
-
-    /** A row with a sensor of kind 1 and value 50 at its first node, and an interest in it at its last one. */
-    private static InterestNet asking(int nodes, int energy, int delay) {
-        InterestNet net = row(nodes, energy, delay);
-        net.addSensor(0, 1, 50);
-        net.ask(nodes - 1, 1, 0, 100, 100000);
-        return net;
-    }
-
-    private static void write(InterestNet net, String text) {
-        net.clearText();
-        for (int index = 0; index < text.length(); index++) {
-            net.type(text.charAt(index));
-        }
+        finish();
     }
 
     private static void dueFault(InterestNet net, String text, int want) {
@@ -96,14 +54,6 @@ public final class PromiseTest {
             long before = net.digest();
             due("build() of '" + text + "'", net.build(), BAD_STATE);
             due("digest() after it", net.digest(), before);
-        }
-    }
-
-    private static void dueWay(InterestNet net, int interest, int sensor, int... nodes) {
-        due("wayLength(" + interest + ", " + sensor + ")", net.wayLength(interest, sensor), nodes.length);
-        for (int index = 0; index < nodes.length; index++) {
-            due("wayNode(" + interest + ", " + sensor + ", " + index + ")", net.wayNode(interest, sensor, index),
-                    nodes[index]);
         }
     }
 
