@@ -672,6 +672,8 @@ public final class CallEdgeTest extends Answers {
             };
             changesNothing("firstDeath() of a node with " + energy, exploring, net -> net.firstDeath(), rounds[index]);
         }
+        // Nodes 1 and 2 have 86: they spend 6 in each round, and 2 more in round 10.
+        changesNothing("firstDeath()", SOME, net -> net.firstDeath(), 14);
         part = "22: fewer nodes are alive than now";
         changesNothing("firstDeath() of no nodes", EMPTY, net -> net.firstDeath(), NONE);
         InterestNet net = lonely(3, 100000);
